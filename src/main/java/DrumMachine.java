@@ -352,20 +352,20 @@ public final class DrumMachine {
             return END_ADDRESS;
         }
         Block block = job.blockOf(address);
-        if (block == null) {
-            return reachNew(job, address / BLOCK_WORDS);
+        if (block == null && existing >= MOST_BLOCKS) {
+            return END_STORE;
         }
-        if (block.locked) {
-            job.awaited = block;
-            return MISSED;
-        }
-        if (block.frame != NONE) {
-            return DONE;
+        if (block != null && block.frame != NONE) {
+            return reachHeld(job, block);
         }
         int f = core.lowestFree();
         if (f == NONE) {
             job.awaitsFrame = true;
             return MISSED;
+        }
+        if (block == null) {
+            core.place(createBlock(job, address / BLOCK_WORDS), f);
+            return DONE;
         }
         core.place(block, f);
         block.locked = true;
@@ -374,16 +374,11 @@ public final class DrumMachine {
         return MISSED;
     }
 
-    private int reachNew(Job job, int k) {
-        if (existing >= MOST_BLOCKS) {
-            return END_STORE;
-        }
-        int f = core.lowestFree();
-        if (f == NONE) {
-            job.awaitsFrame = true;
+    private int reachHeld(Job job, Block block) {
+        if (block.locked) {
+            job.awaited = block;
             return MISSED;
         }
-        core.place(createBlock(job, k), f);
         return DONE;
     }
 
@@ -516,7 +511,7 @@ public final class DrumMachine {
             return !locked && !owner.wants(this);
         }
 
-        /** 0 if it has been unused for longer than ever it was, 1 if it is unused, 2 if it is not. */
+        /** 0 if it is unused for longer than its last pause foretold, 1 if it is unused, 2 if it is not. */
         int victimClass() {
             if (unusedRounds > lastPause + 1) {
                 return 0;
@@ -750,7 +745,7 @@ public final class DrumMachine {
         Job(int number, int limit, Tray tray, int words) {
             this.number = number;
             this.limit = limit;
-            for (int i = 0; i < words && i < tray.wordCount && i < STORE_WORDS; i++) {
+            for (int i = 0; i < words && i < MOST_TRAY_WORDS; i++) {
                 store[i] = tray.words[i];
             }
             tape = new int[Math.max(tray.byteCount, 0)];
@@ -832,11 +827,11 @@ public final class DrumMachine {
 
         /** Does an order whose word, if it takes one, is in reach: DONE, or how the job ends by it. */
         int obey(int f, int a, int s) {
-            int outcome;
+            int outcome = DONE;
             if (f < 16) {
-                outcome = obeyIndexOrder(f, a, s);
+                obeyIndexOrder(f, a, s);
             } else if (f < 32) {
-                outcome = obeyAccumulatorOrder(f, s);
+                obeyAccumulatorOrder(f, s);
             } else {
                 outcome = obeyRoutine(f, s);
             }
@@ -847,7 +842,7 @@ public final class DrumMachine {
             return outcome;
         }
 
-        int obeyIndexOrder(int f, int a, int s) {
+        void obeyIndexOrder(int f, int a, int s) {
             switch (f) {
                 case 1:
                     setIndex(a, s);
@@ -876,10 +871,9 @@ public final class DrumMachine {
                 default:
                     break;
             }
-            return DONE;
         }
 
-        int obeyAccumulatorOrder(int f, int s) {
+        void obeyAccumulatorOrder(int f, int s) {
             switch (f) {
                 case 16:
                     accumulator = load(s);
@@ -911,7 +905,6 @@ public final class DrumMachine {
                 default:
                     break;
             }
-            return DONE;
         }
 
         /** Asked behind the order's other work: order 10 looks at what it has made of its register. */
