@@ -94,4 +94,24 @@ final class Check {
             System.out.println(what + " answered \"" + got + "\", due is \"" + want + "\"");
         }
     }
+
+    static void dueFrame(DrumMachine x, int f, int... due) {
+        for (int what = 0; what < due.length; what++) {
+            due("clock " + x.clock() + ": frame(" + f + ", " + what + ")", x.frame(f, what), due[what]);
+        }
+    }
+
+    static void dueFree(DrumMachine x, int f) {
+        dueFrame(x, f, -1, -1, 0, 0, 0);
+    }
+
+    static void dueTold(DrumMachine x, int... due) {
+        for (int what = 0; what < due.length; what++) {
+            due("clock " + x.clock() + ": told(" + what + ")", x.told(what), due[what]);
+        }
+    }
+
+    static void dueSector(DrumMachine x, int d, int due) {
+        due("clock " + x.clock() + ": sector(" + d + ")", x.sector(d), due);
+    }
 }

@@ -14,46 +14,26 @@ final class StoreTest {
         Check.finish();
     }
 
-    private static void dueFrame(DrumMachine x, int f, int... due) {
-        for (int what = 0; what < due.length; what++) {
-            Check.due("clock " + x.clock() + ": frame(" + f + ", " + what + ")", x.frame(f, what), due[what]);
-        }
-    }
-
-    private static void dueFree(DrumMachine x, int f) {
-        dueFrame(x, f, -1, -1, 0, 0, 0);
-    }
-
-    private static void dueTold(DrumMachine x, int... due) {
-        for (int what = 0; what < due.length; what++) {
-            Check.due("clock " + x.clock() + ": told(" + what + ")", x.told(what), due[what]);
-        }
-    }
-
-    private static void dueSector(DrumMachine x, int d, int due) {
-        Check.due("clock " + x.clock() + ": sector(" + d + ")", x.sector(d), due);
-    }
-
     private static void aRead() {
         DrumMachine x = new DrumMachine();
         Check.take(x, 9, Check.order(34, 0));
-        dueSector(x, 0, 0);
-        dueTold(x, 0, 0, 0, 0, 0, 1, 1, -1);
+        Check.dueSector(x, 0, 0);
+        Check.dueTold(x, 0, 0, 0, 0, 0, 1, 1, -1);
         x.run(1);
-        dueTold(x, 0, 0, 1, 0, 0, 1, 1, 0);
-        dueFrame(x, 0, 0, 0, 1, 0, 0);
-        dueSector(x, 0, 0);
+        Check.dueTold(x, 0, 0, 1, 0, 0, 1, 1, 0);
+        Check.dueFrame(x, 0, 0, 0, 1, 0, 0);
+        Check.dueSector(x, 0, 0);
         x.run(1);
-        dueTold(x, 1, 0, 1, 1, 0, 1, 1, 0);
-        dueFrame(x, 0, 0, 0, 1, 0, 0);
-        dueSector(x, 0, -1);
+        Check.dueTold(x, 1, 0, 1, 1, 0, 1, 1, 0);
+        Check.dueFrame(x, 0, 0, 0, 1, 0, 0);
+        Check.dueSector(x, 0, -1);
         Check.due("a word under way", x.word(0, 0), Check.order(34, 0));
         x.run(32);
-        dueTold(x, 1, 0, 1, 33, 0, 1, 1, 0);
-        dueFrame(x, 0, 0, 0, 1, 0, 0);
+        Check.dueTold(x, 1, 0, 1, 33, 0, 1, 1, 0);
+        Check.dueFrame(x, 0, 0, 0, 1, 0, 0);
         x.run(1);
-        dueTold(x, 1, 0, 1, 33, 0, 0, 0, 0);
-        dueFree(x, 0);
+        Check.dueTold(x, 1, 0, 1, 33, 0, 0, 0, 0);
+        Check.dueFree(x, 0);
         Check.due("clock()", x.clock(), 35);
     }
 
@@ -62,26 +42,26 @@ final class StoreTest {
         x.frames(3);
         Check.take(x, 999, Check.order(20, 16), Check.order(5, 32), Check.order(29, 2));
         x.run(35);
-        dueFrame(x, 0, 0, 0, 0, 0, 0);
-        dueFrame(x, 1, 0, 1, 0, 0, 0);
-        dueFree(x, 2);
-        dueTold(x, 1, 0, 1, 33, 0, 2, 1, 0);
+        Check.dueFrame(x, 0, 0, 0, 0, 0, 0);
+        Check.dueFrame(x, 1, 0, 1, 0, 0, 0);
+        Check.dueFree(x, 2);
+        Check.dueTold(x, 1, 0, 1, 33, 0, 2, 1, 0);
         x.run(1);
-        dueFrame(x, 2, 0, 2, 0, 0, 0);
-        dueTold(x, 1, 0, 1, 33, 0, 3, 1, 0);
+        Check.dueFrame(x, 2, 0, 2, 0, 0, 0);
+        Check.dueTold(x, 1, 0, 1, 33, 0, 3, 1, 0);
         // Frame 0 is WANTED: it has CONTROL. SECTOR 2 passes at 36.
         x.run(1);
-        dueFrame(x, 1, 0, 1, 1, 0, 0);
-        dueSector(x, 2, 1);
-        dueTold(x, 1, 1, 1, 33, 0, 3, 1, 0);
+        Check.dueFrame(x, 1, 0, 1, 1, 0, 0);
+        Check.dueSector(x, 2, 1);
+        Check.dueTold(x, 1, 1, 1, 33, 0, 3, 1, 0);
         x.run(1);
-        dueFrame(x, 1, 0, 1, 1, 0, 0);
+        Check.dueFrame(x, 1, 0, 1, 1, 0, 0);
         x.run(1);
-        dueFree(x, 1);
-        dueSector(x, 2, 1);
-        dueTold(x, 1, 1, 1, 33, 0, 3, 1, 0);
+        Check.dueFree(x, 1);
+        Check.dueSector(x, 2, 1);
+        Check.dueTold(x, 1, 1, 1, 33, 0, 3, 1, 0);
         x.run(100);
-        dueTold(x, 1, 1, 1, 33, 6, 3, 1, 0);
+        Check.dueTold(x, 1, 1, 1, 33, 6, 3, 1, 0);
     }
 
     private static void aWriteGoesToTheLowestOfAlikeSectors() {
@@ -93,11 +73,11 @@ final class StoreTest {
         program[2] = Check.order(29, 2);
         Check.take(x, 999, program);
         x.run(36);
-        dueSector(x, 18, -1);
+        Check.dueSector(x, 18, -1);
         x.run(1);
-        dueSector(x, 2, 2);
-        dueSector(x, 18, 3);
-        dueSector(x, 34, -1);
+        Check.dueSector(x, 2, 2);
+        Check.dueSector(x, 18, 3);
+        Check.dueSector(x, 34, -1);
         Check.due("told(1)", x.told(1), 1);
     }
 
@@ -107,21 +87,21 @@ final class StoreTest {
         Check.take(x, 999, Check.order(20, 16), Check.order(20, 32), Check.order(34, 0));
         Check.due("run(20000)", x.run(20000), 0);
         Check.due("clock()", x.clock(), 37);
-        dueFree(x, 0);
-        dueFrame(x, 1, 0, 1, 1, 0, 0);
-        dueFree(x, 2);
-        dueSector(x, 2, 1);
-        dueTold(x, 1, 1, 1, 33, 0, 1, 0, 0);
+        Check.dueFree(x, 0);
+        Check.dueFrame(x, 1, 0, 1, 1, 0, 0);
+        Check.dueFree(x, 2);
+        Check.dueSector(x, 2, 1);
+        Check.dueTold(x, 1, 1, 1, 33, 0, 1, 0, 0);
         Check.take(x, 9, Check.order(34, 0));
-        dueSector(x, 0, 1000);
+        Check.dueSector(x, 0, 1000);
         x.run(1);
-        dueFrame(x, 0, 1, 0, 1, 0, 0);
-        dueFrame(x, 1, 0, 1, 1, 0, 0);
-        dueTold(x, 1, 1, 2, 33, 0, 2, 1, 1);
+        Check.dueFrame(x, 0, 1, 0, 1, 0, 0);
+        Check.dueFrame(x, 1, 0, 1, 1, 0, 0);
+        Check.dueTold(x, 1, 1, 2, 33, 0, 2, 1, 1);
         x.run(1);
-        dueFree(x, 1);
-        dueSector(x, 2, -1);
-        dueTold(x, 2, 1, 2, 34, 0, 1, 1, 1);
+        Check.dueFree(x, 1);
+        Check.dueSector(x, 2, -1);
+        Check.dueTold(x, 2, 1, 2, 34, 0, 1, 1, 1);
         x.run(20000);
         Check.due("clock(): the read goes from 64", x.clock(), 67);
     }
@@ -137,24 +117,24 @@ final class StoreTest {
         Check.take(x, 999, program);
         Check.take(x, 999, Check.order(34, 0));
         x.run(37);
-        dueFrame(x, 0, 0, 0, 0, 0, 0);
-        dueFrame(x, 1, 1, 0, 1, 0, 0);
-        dueFrame(x, 2, 0, 2, 0, 0, 0);
-        dueFrame(x, 3, 0, 3, 0, 0, 0);
-        dueFrame(x, 4, 0, 4, 0, 0, 0);
-        dueTold(x, 2, 0, 2, 32, 0, 6, 2, 0);
+        Check.dueFrame(x, 0, 0, 0, 0, 0, 0);
+        Check.dueFrame(x, 1, 1, 0, 1, 0, 0);
+        Check.dueFrame(x, 2, 0, 2, 0, 0, 0);
+        Check.dueFrame(x, 3, 0, 3, 0, 0, 0);
+        Check.dueFrame(x, 4, 0, 4, 0, 0, 0);
+        Check.dueTold(x, 2, 0, 2, 32, 0, 6, 2, 0);
         // At 37 the WRITE of block 2 is asked for, behind the READ from SECTOR 2; then the job ends.
         x.run(1);
         Check.due("ended(0)", x.ended(0), 1);
-        dueFree(x, 0);
-        dueFrame(x, 1, 1, 0, 1, 0, 0);
-        dueFree(x, 2);
-        dueFree(x, 3);
-        dueFree(x, 4);
-        dueTold(x, 2, 0, 2, 32, 0, 1, 1, 0);
-        dueSector(x, 1, -1);
+        Check.dueFree(x, 0);
+        Check.dueFrame(x, 1, 1, 0, 1, 0, 0);
+        Check.dueFree(x, 2);
+        Check.dueFree(x, 3);
+        Check.dueFree(x, 4);
+        Check.dueTold(x, 2, 0, 2, 32, 0, 1, 1, 0);
+        Check.dueSector(x, 1, -1);
         Check.due("run(20000)", x.run(20000), 0);
-        dueTold(x, 2, 0, 2, 32, 0, 0, 0, 1);
+        Check.dueTold(x, 2, 0, 2, 32, 0, 0, 0, 1);
         Check.due("clock()", x.clock(), 39);
     }
 
@@ -164,24 +144,24 @@ final class StoreTest {
         Check.take(x, 999, Check.order(20, 16), Check.order(20, 32), Check.order(16, 16), Check.order(29, 3));
         // At 36 block 1 is VICTIM and wanted: a MISS. At 38 it is on SECTOR 2: a MISS again, and its READ from 68 on.
         x.run(37);
-        dueTold(x, 1, 1, 2, 33, 0, 3, 1, 0);
+        Check.dueTold(x, 1, 1, 2, 33, 0, 3, 1, 0);
         x.run(1);
-        dueTold(x, 1, 1, 2, 34, 0, 3, 1, 0);
+        Check.dueTold(x, 1, 1, 2, 34, 0, 3, 1, 0);
         x.run(1);
-        dueTold(x, 1, 1, 3, 34, 0, 3, 1, 0);
-        dueFrame(x, 1, 0, 1, 1, 0, 0);
-        dueSector(x, 2, 1);
+        Check.dueTold(x, 1, 1, 3, 34, 0, 3, 1, 0);
+        Check.dueFrame(x, 1, 0, 1, 1, 0, 0);
+        Check.dueSector(x, 2, 1);
         x.run(1);
-        dueTold(x, 2, 1, 3, 35, 0, 3, 1, 0);
-        dueSector(x, 2, -1);
+        Check.dueTold(x, 2, 1, 3, 35, 0, 3, 1, 0);
+        Check.dueSector(x, 2, -1);
         Check.due("done(0)", x.done(0), 2);
         x.run(31);
         // The READ ends at 70; then the WRITE of block 2 begins, which was asked for at 39. SECTOR 3 passes at 70.
         Check.due("done(0)", x.done(0), 3);
-        dueFrame(x, 1, 0, 1, 0, 0, 0);
-        dueFrame(x, 2, 0, 2, 1, 0, 0);
-        dueSector(x, 3, 2);
-        dueTold(x, 2, 2, 3, 65, 0, 3, 1, 0);
+        Check.dueFrame(x, 1, 0, 1, 0, 0, 0);
+        Check.dueFrame(x, 2, 0, 2, 1, 0, 0);
+        Check.dueSector(x, 3, 2);
+        Check.dueTold(x, 2, 2, 3, 65, 0, 3, 1, 0);
     }
 
     private static void jobsTakeTurns() {
@@ -193,10 +173,10 @@ final class StoreTest {
         for (int j : inHand) {
             x.run(1);
             Check.due("in hand at " + (x.clock() - 1), x.told(7), j);
-            dueFrame(x, j, j, 0, 1, 0, 0);
+            Check.dueFrame(x, j, j, 0, 1, 0, 0);
         }
         x.run(31);
-        dueTold(x, 1, 0, 3, 31, 0, 3, 3, 2);
+        Check.dueTold(x, 1, 0, 3, 31, 0, 3, 3, 2);
         x.run(1);
         Check.due("in hand at 34", x.told(7), 0);
         x.run(50);
@@ -223,7 +203,7 @@ final class StoreTest {
             Check.take(x, 100, Check.order(29, 0));
         }
         x.run(134);
-        dueFree(x, 2);
+        Check.dueFree(x, 2);
         Check.due("done(0)", x.done(0), 100);
         x.run(1);
         Check.due("ended(0)", x.ended(0), 2);
@@ -234,7 +214,7 @@ final class StoreTest {
         Check.due("ended(1)", x.ended(1), 2);
         x.run(1);
         Check.due("in hand", x.told(7), 2);
-        dueFrame(x, 0, 2, 0, 1, 0, 0);
+        Check.dueFrame(x, 0, 2, 0, 1, 0, 0);
     }
 
     private static void readsInTheOrderOfAsking() {
@@ -244,19 +224,19 @@ final class StoreTest {
         Check.take(x, 9, Check.order(29, 0));
         // SECTORS 0 (job 0), 2 (job 1) and 3 (job 2): READS from 32, then from 36, then from 38.
         x.run(34);
-        dueSector(x, 0, -1);
-        dueSector(x, 2, 1000);
+        Check.dueSector(x, 0, -1);
+        Check.dueSector(x, 2, 1000);
         Check.due("READS", x.told(0), 1);
         x.run(1);
         Check.due("ended(0)", x.ended(0), 1);
-        dueSector(x, 1, -1);
-        dueSector(x, 2, -1);
-        dueSector(x, 3, 2000);
+        Check.dueSector(x, 1, -1);
+        Check.dueSector(x, 2, -1);
+        Check.dueSector(x, 3, 2000);
         x.run(3);
-        dueFrame(x, 1, 1, 0, 1, 0, 0);
+        Check.dueFrame(x, 1, 1, 0, 1, 0, 0);
         x.run(1);
-        dueFrame(x, 1, 1, 0, 0, 0, 0);
-        dueSector(x, 3, -1);
+        Check.dueFrame(x, 1, 1, 0, 0, 0, 0);
+        Check.dueSector(x, 3, -1);
         Check.due("READS", x.told(0), 3);
         Check.due("done(1)", x.done(1), 1);
     }
