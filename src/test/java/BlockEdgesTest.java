@@ -9,6 +9,7 @@ final class BlockEdgesTest {
         aBlockExistsOnlyBehindItsInstruction();
         programsGoToTheLowestFreeSectors();
         anEndFreesFramesAndSectors();
+        anEndFreesNoSectorOfAnother();
         anEndDropsAWriteThatIsNotBegun();
         aWriteUnderWayIsOneOfThe64();
         someJobsAreActive();
@@ -106,6 +107,21 @@ final class BlockEdgesTest {
         for (int d = 0; d < 64; d++) {
             Check.dueSector(x, d, -1);
         }
+    }
+
+    /** The same: the SECTOR from which a BLOCK of it was read, long ago, is another job's by now. */
+    private static void anEndFreesNoSectorOfAnother() {
+        DrumMachine x = new DrumMachine();
+        x.frames(3);
+        Check.take(x, 5, STAY);
+        x.run(2);
+        Check.dueSector(x, 0, -1);
+        Check.take(x, 5, STAY);
+        Check.dueSector(x, 0, 1000);
+        x.run(38);
+        Check.due("ended(0)", x.ended(0), 2);
+        Check.dueSector(x, 0, 1000);
+        Check.due("BLOCKS", x.told(5), 1);
     }
 
     /** "WRITES of them that were asked for and not begun are dropped": another VICTIM can be chosen then. */

@@ -84,6 +84,7 @@ final class LearningTest {
             Check.due("LOCKED frame " + f, x.frame(f, 2), f == frame ? 1 : 0);
         }
         Check.due("the VICTIM", x.frame(frame, 1), block);
+        dueAges(x, frame, 0, 0);
     }
 
     private static void theFirstThatIsUnusedForTooLong() {

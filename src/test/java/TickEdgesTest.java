@@ -5,18 +5,23 @@ final class TickEdgesTest {
     public static void main(String[] args) {
         aReadOfABlockThatWasNoVictim();
         aReadOfABlockThatWasVictim();
+        aReadBeginsToCountAnew();
         noVictimWhileAFrameIsFree();
         oneWriteAtATime();
         tooLongUnusedIsMoreThanOneAboveT();
+        theFirstOfThoseTooLongUnused();
         readsGoFromTheirSector();
         writesGoToTheNextSector();
         writesPassSectorsThatAreNotFree();
+        thereAre64Sectors();
         theFirstIsInHandAtTheBeginning();
         roundTheJobs();
         aNewBlockWithoutAFreeFrame();
+        aFirstInstructionWithoutAFreeFrame();
         aBlockOnTheDrumWithoutAFreeFrame();
         aNewBlockInTheLowestFreeFrame();
         aRoundBehindEvery16th();
+        aRoundOfAllFrames();
         aRoundOfAllJobsTogether();
         whatAWaitingJobHasIsNotUsed();
         anAddressWithoutAWordUsesNothing();
@@ -54,6 +59,22 @@ final class TickEdgesTest {
             int frame = x.frame(1, 1) == 1 ? 1 : 2;
             Check.due("T of a BLOCK that was away, k = " + k, x.frame(frame, 4), since);
         }
+    }
+
+    /** (a): "t is 0", though it was not when the BLOCK was chosen. */
+    private static void aReadBeginsToCountAnew() {
+        DrumMachine x = new DrumMachine();
+        x.frames(3);
+        Check.take(x, 999, Check.order(20, 16), Check.order(1, 1, 0, 40), Check.order(10, 1, 0, 2), Check.order(20, 32),
+                Check.order(16, 16), Check.order(29, 5));
+        // Block 1 is VICTIM at 77, goes to SECTOR 7 at 78, and comes from it at 112.
+        x.run(77);
+        Check.dueFrame(x, 1, 0, 1, 0, 1, 0);
+        x.run(35);
+        Check.dueFrame(x, 1, 0, 1, 1, 0, 0);
+        x.run(1);
+        Check.dueFrame(x, 1, 0, 1, 0, 0, 0);
+        Check.due("done(0)", x.done(0), 44);
     }
 
     private static void dueLocked(DrumMachine x, int clock, int... due) {
@@ -121,6 +142,18 @@ final class TickEdgesTest {
         Check.dueFrame(x, 1, 0, 1, 0, 1, 0);
         Check.dueFrame(x, 2, 0, 2, 0, 1, 0);
         dueLocked(x, 35 + 34, 0, 1, 0, 0);
+    }
+
+    /** (b): "The first FRAME with t > T + 1", whatever T - t is. */
+    private static void theFirstOfThoseTooLongUnused() {
+        DrumMachine x = new DrumMachine();
+        x.frames(4);
+        Check.take(x, 999, Check.order(20, 16), Check.order(20, 32), Check.order(1, 1, 0, 17), Check.order(10, 1, 0, 3),
+                Check.order(20, 32), Check.order(1, 1, 0, 44), Check.order(10, 1, 0, 6), Check.order(20, 48), Check.order(29, 8));
+        x.run(34 + 67);
+        Check.dueFrame(x, 1, 0, 1, 0, 3, 0);
+        Check.dueFrame(x, 2, 0, 2, 0, 2, 0);
+        dueLocked(x, 35 + 67, 0, 1, 0, 0);
     }
 
     /** (c): "A READ goes from the least such s >= c of its SECTOR .. it ends at s + 2." */
@@ -200,6 +233,31 @@ final class TickEdgesTest {
         Check.dueFree(x, 1);
     }
 
+    /** (c): where all SECTORS of one place are full, the next place that has a free one is taken. */
+    private static void thereAre64Sectors() {
+        DrumMachine x = new DrumMachine();
+        x.frames(3);
+        long[] program = new long[992];
+        program[0] = Check.order(20, 992);
+        program[1] = Check.order(16, 240);
+        program[2] = Check.order(29, 2);
+        Check.take(x, 999, program);
+        x.run(34);
+        Check.take(x, 999, STAY);
+        Check.dueSector(x, 0, 1000);
+        // At 64 the READ from SECTOR 15 has ended; 0, 16, 32 and 48 are full, 15, 62 and 63 pass at 94, 92 and 94.
+        x.run(31);
+        Check.due("BLOCKS", x.told(5), 64);
+        Check.due("WRITES", x.told(1), 1);
+        Check.dueSector(x, 15, -1);
+        Check.dueSector(x, 62, 62);
+        Check.dueSector(x, 63, -1);
+        x.run(29);
+        Check.due("LOCKED at 93", x.frame(1, 2), 1);
+        x.run(1);
+        Check.dueFree(x, 1);
+    }
+
     /** (d): "(the first one at the beginning)". */
     private static void theFirstIsInHandAtTheBeginning() {
         DrumMachine x = new DrumMachine();
@@ -252,6 +310,28 @@ final class TickEdgesTest {
         Check.dueTold(x, 1, 1, 2, 34, 0, 4, 1, 0);
         Check.dueFrame(x, 1, 0, 3, 0, 0, 0);
         Check.due("done(0)", x.done(0), 3);
+        // Again no FRAME is free, but it waits for none now.
+        x.run(10);
+        Check.due("done(0)", x.done(0), 13);
+        Check.due("IDLE", x.told(3), 34);
+    }
+
+    /** (d): the same for the first INSTRUCTION of a job. */
+    private static void aFirstInstructionWithoutAFreeFrame() {
+        DrumMachine x = new DrumMachine();
+        x.frames(5);
+        Check.take(x, 99, Check.order(20, 16), Check.order(20, 32), Check.order(20, 48), Check.order(20, 64), Check.order(20, 80),
+                Check.order(29, 5));
+        x.run(38);
+        Check.take(x, 99, STAY);
+        // Block 1 is VICTIM at 38 and gone at 40; the first job finds no free FRAME at 38, the other one at 39.
+        x.run(1);
+        Check.dueTold(x, 1, 1, 2, 33, 0, 6, 2, 0);
+        x.run(1);
+        Check.dueTold(x, 1, 1, 3, 33, 0, 6, 2, 1);
+        x.run(1);
+        Check.dueTold(x, 1, 1, 4, 33, 0, 6, 2, 1);
+        Check.dueFrame(x, 1, 1, 0, 1, 0, 0);
     }
 
     /** (d): the same for a BLOCK on a SECTOR: a MISS without a READ, and then one with it. */
@@ -303,6 +383,33 @@ final class TickEdgesTest {
             Check.due("ROUNDS behind " + n, x.told(4), n / 16);
             Check.due("t behind " + n, x.frame(1, 3), Math.max(n / 16 - 1, 0));
         }
+    }
+
+    /** (e): "for each BLOCK in a FRAME": from the first to the last. */
+    private static void aRoundOfAllFrames() {
+        DrumMachine x = new DrumMachine();
+        x.frames(4);
+        long[] program = new long[20];
+        program[0] = Check.order(29, 16);
+        program[16] = Check.order(20, 32);
+        program[17] = Check.order(20, 48);
+        program[18] = Check.order(29, 18);
+        Check.take(x, 999, program);
+        // The INSTRUCTIONS 2, 3 .. are done from 68 on; block 0, of INSTRUCTION 1, is VICTIM at 70 and written till 72.
+        x.run(70);
+        Check.dueFrame(x, 0, 0, 0, 0, 0, 0);
+        Check.dueFrame(x, 3, 0, 3, 0, 0, 0);
+        x.run(29);
+        Check.dueFree(x, 0);
+        Check.dueFrame(x, 1, 0, 1, 0, 0, 0);
+        Check.dueFrame(x, 2, 0, 2, 0, 1, 0);
+        Check.dueFrame(x, 3, 0, 3, 0, 1, 0);
+        x = new DrumMachine();
+        program[16] = Check.order(29, 16);
+        Check.take(x, 999, program);
+        x.run(99);
+        Check.dueFrame(x, 0, 0, 0, 0, 1, 0);
+        Check.dueFrame(x, 1, 0, 1, 0, 0, 0);
     }
 
     /** (e): "(of all jobs together)". */
