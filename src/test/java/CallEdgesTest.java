@@ -307,6 +307,7 @@ final class CallEdgesTest {
         Check.due("clock", x.clock(), 70);
     }
 
+    /** 6: "till all jobs that were taken have ended": with none taken there is no tick. */
     private static void runWithoutJobs() {
         DrumMachine x = new DrumMachine();
         Check.due("run(20000) without jobs", x.run(20000), 0);

@@ -107,6 +107,7 @@ final class EndEdgesTest {
         }
     }
 
+    /** "4 .. S where a word at S is told": no end by an S of other orders. */
     private static void noEndByAnAddressWithoutAWord() {
         for (int f : new int[] {1, 2, 3, 7, 9, 11, 12, 23, 25, 27, 28, 32, 33, 66, 67, 68}) {
             for (int s : new int[] {1024, -1, 1 << 23}) {
@@ -174,6 +175,7 @@ final class EndEdgesTest {
         Check.due("BLOCKS: the other job's, and the one that is written", x.told(5), 3);
     }
 
+    /** "5 if one more is wanted": no end by a BLOCK that is one of the 64. */
     private static void noEndByABlockThatExists() {
         DrumMachine x = new DrumMachine();
         long[] program = new long[32];
