@@ -11,6 +11,8 @@ public final class DrumMachine {
     private static final int MOST_FRAMES = 17;
     private static final int FIRST_FRAMES = 7;
     private static final int SECTORS = 64;
+    private static final int SECTORS_ROUND = 16;
+    private static final int DRUM_TURN = 32;
     private static final int STORE_WORDS = 1024;
     private static final int BLOCK_WORDS = 16;
     private static final int STORE_BLOCKS = STORE_WORDS / BLOCK_WORDS;
@@ -706,7 +708,7 @@ public final class DrumMachine {
 
         int nextFreeSector(int clock) {
             int best = NONE;
-            int least = Integer.MAX_VALUE;
+            int least = DRUM_TURN;
             for (int d = 0; d < SECTORS; d++) {
                 int ticks = ticksTill(d, clock);
                 if (sectors[d] == null && ticks < least) {
@@ -717,8 +719,9 @@ public final class DrumMachine {
             return best;
         }
 
+        /** How many ticks it is till a SECTOR passes the heads, always fewer than a turn has. */
         static int ticksTill(int d, int clock) {
-            return Math.floorMod(2 * (d % 16) - clock, 32);
+            return Math.floorMod(2 * (d % SECTORS_ROUND) - clock, DRUM_TURN);
         }
     }
 

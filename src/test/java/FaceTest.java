@@ -17,6 +17,7 @@ final class FaceTest {
     public static void main(String[] args) {
         faceIsTheDocuments();
         newObject();
+        exampleOfTheReadme();
         Check.finish();
     }
 
@@ -76,5 +77,24 @@ final class FaceTest {
         Check.due("new: clock() behind run", x.clock(), 0);
         Check.due("new: job(1, 1) of an empty tray", x.job(1, 1), -1);
         Check.due("new: bytes of none", x.bytes(-1, -1, -1, -1, 0), 0);
+    }
+
+    /** The calls that README.md shows. */
+    private static void exampleOfTheReadme() {
+        DrumMachine machine = new DrumMachine();
+        Check.due("example: frames", machine.frames(5), 5);
+        long load = 23L << 38 | 42;
+        long print = 66L << 38;
+        long end = 34L << 38;
+        Check.due("example: words", machine.words(load, print, end, 0, 0), 5);
+        int job = machine.job(100, 3);
+        Check.due("example: job", job, 0);
+        Check.due("example: run", machine.run(20000), 0);
+        Check.due("example: ended", machine.ended(job), 1);
+        Check.due("example: done", machine.done(job), 3);
+        Check.due("example: printed", machine.printed(job), 3);
+        Check.due("example: out 0", machine.out(job, 0), '4');
+        Check.due("example: out 1", machine.out(job, 1), '2');
+        Check.due("example: out 2", machine.out(job, 2), 10);
     }
 }

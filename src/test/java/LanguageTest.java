@@ -1,7 +1,12 @@
 import java.io.IOException;
+import java.lang.reflect.Field;
+import java.lang.reflect.Method;
+import java.lang.reflect.Modifier;
 import java.nio.file.Files;
 import java.nio.file.Path;
 import java.util.Random;
+import java.util.Set;
+import java.util.TreeSet;
 import java.util.regex.Matcher;
 import java.util.regex.Pattern;
 
@@ -10,7 +15,8 @@ final class LanguageTest {
     private static final String SOURCE = "src/main/java/DrumMachine.java";
     private static final String[] RULED_OUT = {"\\bthrow\\b", "\\btry\\b", "\\bcatch\\b", "\\bsynchronized\\b", "\\bassert\\b",
         "->", "::", "\\bimport\\b", "\\bpackage\\b", "Exact\\b", "\\bprotected\\b", "\\bnew \\w+\\(.*\\) \\{", "\\bdouble\\b",
-        "\\bfloat\\b", "\\bSystem\\.(?!arraycopy)", "\\bstatic \\{", "\"", "\\bThread\\b", "\\bRandom\\b"};
+        "\\bfloat\\b", "\\bSystem\\.(?!arraycopy)", "\\bstatic \\{", "\"", "\\bThread\\b", "\\bRandom\\b",
+        "\\b(Integer|Long|Arrays|String)\\b", "\\bMath\\.(?!(max|min|abs|floorMod|floorDiv)\\()"};
 
     public static void main(String[] args) throws IOException {
         String source = Files.readString(Path.of(SOURCE)).replaceAll("(?s)/\\*.*?\\*/", "").replaceAll("//.*", "");
@@ -19,6 +25,13 @@ final class LanguageTest {
         }
         Check.due("static fields that are not final", count(source, "static (?!final)[^({]*[;=]"), 0);
         Check.due("classes that are not static", count(source, "(?<!static final |public final )\\bclass\\b"), 0);
+        for (Class<?> one : DrumMachine.class.getDeclaredClasses()) {
+            Check.due("a private and static class: " + one.getName(),
+                    one.getModifiers() & (Modifier.PRIVATE | Modifier.STATIC), Modifier.PRIVATE | Modifier.STATIC);
+            sizesAreKept(one);
+        }
+        sizesAreKept(DrumMachine.class);
+        namesOfTheFaceAreItsOwn();
         noCallThrows();
         Check.finish();
     }
@@ -30,6 +43,36 @@ final class LanguageTest {
             n++;
         }
         return n;
+    }
+
+    /** At most seven parameters to a method, and some twenty fields beside the constants. */
+    private static void sizesAreKept(Class<?> one) {
+        for (Method method : one.getDeclaredMethods()) {
+            Check.due("at most seven parameters: " + method, method.getParameterCount() <= 7 ? 1 : 0, 1);
+        }
+        int fields = 0;
+        for (Field field : one.getDeclaredFields()) {
+            fields += Modifier.isStatic(field.getModifiers()) ? 0 : 1;
+        }
+        Check.due("at most twenty fields: " + one.getName(), fields <= 20 ? 1 : 0, 1);
+    }
+
+    /** No private method bears the name of a public one. */
+    private static void namesOfTheFaceAreItsOwn() {
+        Set<String> face = new TreeSet<>();
+        for (Method method : DrumMachine.class.getMethods()) {
+            face.add(method.getName());
+        }
+        for (Method method : DrumMachine.class.getDeclaredMethods()) {
+            if (Modifier.isPrivate(method.getModifiers())) {
+                Check.due("a name of its own: " + method, face.contains(method.getName()) ? 1 : 0, 0);
+            }
+        }
+        for (Class<?> one : DrumMachine.class.getDeclaredClasses()) {
+            for (Method method : one.getDeclaredMethods()) {
+                Check.due("a name of its own: " + method, face.contains(method.getName()) ? 1 : 0, 0);
+            }
+        }
     }
 
     private static void noCallThrows() {
